@@ -555,12 +555,12 @@ public final class LinkHarbour {
     }
 
     private static boolean hasBit(int set, int bit) {
-        return (set >> bit & 1) != 0;
+        return ((set >> bit) & 1) != 0;
     }
 
     // Masks do for division here, as all steps are powers of 2.
     private static int roundUp(int number, int step) {
-        return number + step - 1 & -step;
+        return (number + step - 1) & -step;
     }
 
     private int addReference(int section, int kind, int name, int added, boolean isWeak) {
@@ -1672,7 +1672,7 @@ public final class LinkHarbour {
 
         // What is not there yet does not count so far.
         private int neededNow(int library) {
-            return has(library) ? needsOf[library] & (1 << count) - 1 : 0;
+            return has(library) ? needsOf[library] & ((1 << count) - 1) : 0;
         }
 
         private int loaded() {

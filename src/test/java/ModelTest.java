@@ -6,7 +6,7 @@ import java.util.List;
  * exception's class, has to be the same. Promises 1 to 30.
  */
 public final class ModelTest {
-    private static final int RUNS = 3000;
+    private static final int RUNS = 1500;
     private static final int CALLS = 500;
 
     private final Check check = new Check("ModelTest");
