@@ -160,6 +160,14 @@ public final class LibrariesTest {
         placesDue(x, "19: the ROW goes by breadth: GLOBAL place", 6, 0, 3, 1, 4, 2, 5);
         placesDue(x, "19: BASES in the order of the ROW", 5, 64, 256, 128, 320, 192, 384);
         placesDue(x, "19: one goes by depth: INITIALISED place", 7, 5, 0, 1, 2, 4, 3);
+        LinkHarbour chain = withNeeds(2, 4, 8, 16, 32, 0);
+        check.due("19: a chain of all", 6, chain.open(0, true));
+        placesDue(chain, "19: a chain: GLOBAL place", 6, 0, 1, 2, 3, 4, 5);
+        placesDue(chain, "19: a chain: INITIALISED place", 7, 5, 4, 3, 2, 1, 0);
+        LinkHarbour apart = withNeeds(2, 0, 0);
+        apart.open(0, false);
+        apart.open(2, true);
+        check.due("19: only its own ROW is GLOBAL", 1, apart.many(5));
         LinkHarbour y = withNeeds(2, 4, 1);
         y.open(1, true);
         placesDue(y, "19: a ring: GLOBAL place", 6, 2, 0, 1);
@@ -326,6 +334,14 @@ public final class LibrariesTest {
         x.open(0, true);
         check.due("21: the GLOBAL ones go ahead", 4, x.call(0, 5));
         check.due("21: in their order", 3, x.call(0, 6));
+        LinkHarbour z = harbour();
+        publish(z, 1, 0);
+        publish(z, 0, 4);
+        publish(z, 2, 0);
+        z.open(0, false);
+        z.open(1, false);
+        check.due("21: not what is in another ROW", -1, z.call(0, 5));
+        bindNameZero();
         LinkHarbour y = harbour();
         publish(y, 1, 2 + 4);
         y.open(0, false);
@@ -334,6 +350,23 @@ public final class LibrariesTest {
         check.due("21: what is not LOADED is passed over: none", -1, y.call(0, 5));
         y.open(2, false);
         check.due("21: what is not LOADED is passed over: the next one", 2, y.call(0, 5));
+    }
+
+    private void bindNameZero() {
+        LinkHarbour x = harbour();
+        x.object();
+        x.section(4, 1, true);
+        x.define(4, 9, false, true);
+        x.jump(4, 0, false);
+        x.item(16, 0);
+        x.link(9, true);
+        x.publish(2);
+        publish(x, 0, 0);
+        x.open(0, false);
+        check.due("21: NAME 0 of the first LIBRARY", 1, x.call(0, 0));
+        check.due("24: is a binding", 1, x.many(6));
+        x.close(0);
+        check.due("20: and goes with the others", 0, x.many(6));
     }
 
     private void promise22OfBinding() {

@@ -111,6 +111,13 @@ public final class LinksTest {
         x.clear();
         x.link(0, false);
         check.due("13: nothing is TAKEN without ITEMS", 0, x.many(7));
+        x.word(0, 5, 0, false);
+        x.define(4, 5, false, false);
+        x.item(1, 0);
+        x.item(8 + 16, 1);
+        x.link(0, false);
+        check.due("13: an OBJECT can want two: one", 1, x.ofObject(3, 3));
+        check.due("13: an OBJECT can want two: the other", 2, x.ofObject(4, 3));
     }
 
     private void promise13Definitions() {
@@ -138,11 +145,16 @@ public final class LinksTest {
         for (int k = 1; k < 4; k++) {
             y.define(k, 6, false, false);
         }
+        y.word(3, 0, 0, false);
         y.item(8, 0);
         y.item(7, 0);
         check.due("13: FAULT 1 once for a NAME", 1, y.link(0, false));
         check.due("13: FAULT 1", 1, y.fault(0, 0));
         check.due("13: the first one TAKEN of several STRONG ones", 3, y.ofName(6, 1));
+        y.section(1, 1, false);
+        y.define(4, 0, false, false);
+        check.due("13: FAULT 1 of NAME 0 too", 2, y.link(0, false));
+        check.due("13: that NAME goes ahead", 0, y.fault(0, 1));
 
         LinkHarbour z = withObjects(3);
         z.common(0, 0, 3, 8);
@@ -213,6 +225,12 @@ public final class LinksTest {
         check.due("13: SHARED: WEAK, HIDDEN", 0, x.ofSection(4, 3));
         check.due("13: SHARED: not the DEFINITION", 0, x.ofSection(5, 3));
         check.due("13: SHARED: COMMON", 1, x.ofName(6, 2));
+        LinkHarbour u = withObjects(1);
+        u.section(0, 1, false);
+        u.define(0, 0, false, false);
+        u.item(1, 0);
+        u.link(1, true);
+        check.due("13: SHARED: NAME 0, though it is not the ENTRY", 1, u.ofSection(0, 3));
         x.link(0, false);
         check.due("13: not SHARED", 1, x.many(8));
         check.due("13: not SHARED: COMMON", -1, x.ofName(6, 2));
@@ -468,6 +486,11 @@ public final class LinksTest {
         for (int what = 0; what <= 4; what++) {
             check.due("15: of a link of nothing: " + what, what < 3 ? -1 : 0, x.ofName(3, what));
         }
+        x.word(0, 0, 0, false);
+        x.item(3, 0);
+        x.link(0, false);
+        x.link(0, false);
+        check.due("15: REFERENCES of the latest link alone", 1, x.ofName(0, 4));
         for (int name : new int[] {-1, 20, Integer.MAX_VALUE, Integer.MIN_VALUE}) {
             check.illegalArgument("15: ofName(" + name + ", 0)", () -> x.ofName(name, 0));
         }

@@ -335,6 +335,11 @@ public final class ObjectsTest {
         u.item(4, 2);
         check.due("9: a PLAIN one parts two of kind 2", 1, u.link(0, false));
         check.due("9: as the first one 2 is like 1", -1, u.ofObject(1, 3));
+        LinkHarbour w = crossed();
+        w.item(2, 1);
+        w.item(5, 2);
+        check.due("9: a GROUP can begin with the first ITEM", 0, w.link(0, false));
+        check.due("9: and goes through that again", 2, w.ofObject(1, 3));
         LinkHarbour v = crossed();
         v.item(1, 0);
         v.item(6, 1);

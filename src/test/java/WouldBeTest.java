@@ -253,6 +253,17 @@ public final class WouldBeTest {
         check.due("30: with FAULTS", digestOf(y, true), y.digest());
         check.due("30: the same again", digestOf(y, true), y.digest());
         long before = y.digest();
+        for (int length = 1; length <= 14; length++) {
+            LinkHarbour z = new LinkHarbour();
+            z.object();
+            z.section(0, 1, true);
+            z.define(0, 0, false, false);
+            z.fill(0, length);
+            z.jump(0, 0, false);
+            z.item(1, 0);
+            z.link(0, false);
+            check.due("30: sizeWith of 10, over " + length, digestOf(z, true), z.digest());
+        }
         y.link(8, false);
         check.due("30: another one", 1, y.digest() != before ? 1 : 0);
     }
