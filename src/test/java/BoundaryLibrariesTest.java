@@ -641,6 +641,12 @@ public final class BoundaryLibrariesTest {
         LinkHarbour back = Harbours.withImports(2, 0, 1);
         back.open(1, false);
         check.due("not one that NEEDS it", -1, back.call(0, 1));
+        LinkHarbour other = Harbours.withImports(2, 0, 0, 2);
+        other.open(0, false);
+        other.open(2, false);
+        check.due("not one that is in the ROW of another one alone", -1, other.call(0, 1));
+        check.due("for that one it is", 1, other.call(2, 1));
+        check.due("it would not be for the first one, still", -1, other.wouldBind(0, 1));
     }
 
     /** 3. Libraries: "then of its own ROW, passing over what is not LOADED." */
@@ -920,40 +926,40 @@ public final class BoundaryLibrariesTest {
     private void promise24Bindings() {
         LinkHarbour x = Harbours.withObjects(6);
         for (int k = 0; k < 16; k++) {
-            x.section((k + 2) / 3, 1, true);
+            x.section(k / 3, 1, true);
         }
         for (int name = 0; name < 20; name++) {
-            x.define(0, name, false, false);
+            x.define(15, name, false, false);
         }
-        for (int object = 1; object < 6; object++) {
-            x.define(object * 3, object, false, true);
-            for (int k = 0; k < 20; k++) {
-                if (k != object) {
-                    x.word(object * 3 - 2 + k / 8, k, 0, true);
+        for (int object = 0; object < 5; object++) {
+            x.define(object * 3, 19 - object, false, true);
+            for (int name = 0; name < 20; name++) {
+                if (name != 19 - object) {
+                    x.word(object * 3 + name / 8, name, 0, true);
                 }
             }
         }
         for (int object = 0; object < 6; object++) {
             x.clear();
             x.item(1 << object, 0);
-            x.link(object, true);
+            x.link(19 - object, true);
             x.publish(0);
-            x.open(object, object == 0);
+            x.open(object, object == 5);
         }
         int bindings = 0;
-        for (int library = 1; library < 6; library++) {
+        for (int library = 0; library < 5; library++) {
             for (int name = 0; name < 20; name++) {
-                if (name != library) {
-                    check.due("call()", 0, x.call(library, name));
+                if (name != 19 - library) {
+                    check.due("call()", 5, x.call(library, name));
                     bindings++;
                     check.due("bindings", bindings, x.many(6));
                 }
             }
         }
         check.due("all", 95, x.many(6));
-        x.close(5);
-        check.due("without those of one", 76, x.many(6));
         x.close(0);
+        check.due("without those of one", 76, x.many(6));
+        x.close(5);
         check.due("none", 0, x.many(6));
     }
 
@@ -980,6 +986,13 @@ public final class BoundaryLibrariesTest {
             x.fill(0, 1);
             x.link(0, false);
             check.due(words + " of " + (words + 1), (double) words / (words + 1), x.usedPart());
+        }
+        LinkHarbour all = Harbours.withSections(24);
+        for (int k = 0; k < 24; k++) {
+            Harbours.fillUp(all, k, 320);
+            all.link(0, false);
+            int words = 320 * (k + 1);
+            check.due("all but the word at 0", (double) words / (words + 1), all.usedPart());
         }
         LinkHarbour gap = Harbours.withObjects(1);
         gap.section(0, 16, true);

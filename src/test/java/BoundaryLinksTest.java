@@ -140,6 +140,10 @@ public final class BoundaryLinksTest {
         x.define(4, 4, true, false);
         x.define(5, 5, true, true);
         x.define(6, 7, false, false);
+        for (int object = 1; object <= 3; object++) {
+            x.define(object, 10 + object, object == 1, false);
+            x.common(object, 14 + object, 1, 1);
+        }
         x.item(1, 0);
         x.item(2 + 4 + 8 + 16 + 32 + 64 + 128, 1);
         x.link(0, false);

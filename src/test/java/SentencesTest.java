@@ -35,6 +35,10 @@ public final class SentencesTest {
     private final Map<String, List<String>> told = new LinkedHashMap<>();
 
     public static void main(String[] args) throws IOException {
+        if (!Files.isReadable(DOCUMENT)) {
+            System.out.println("SentencesTest: there is no " + DOCUMENT + " here, so no sentence is looked for");
+            return;
+        }
         SentencesTest test = new SentencesTest();
         test.readDocument();
         test.readRemarks();
