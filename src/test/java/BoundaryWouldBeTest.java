@@ -1,6 +1,8 @@
 import java.math.BigInteger;
 import java.util.ArrayList;
 import java.util.List;
+import java.util.function.IntFunction;
+import java.util.function.Supplier;
 
 /**
  * The edges that the document names in promises 26 to 30: each test stands at the edge itself and just beyond it, and
@@ -345,61 +347,79 @@ public final class BoundaryWouldBeTest {
         check.due("of its ROW again", 1, x.wouldBind(0, 1));
     }
 
-    private static void tell(List<Long> numbers, long number) {
-        numbers.add(number);
+    /** Asks twins, one behind the other, so that each is used for less than 512 calls. */
+    private static final class Teller {
+        private final Supplier<LinkHarbour> make;
+        private final List<Long> numbers = new ArrayList<>();
+        private LinkHarbour twin;
+        private int asked = 0;
+
+        private interface Call {
+            long on(LinkHarbour x);
+        }
+
+        Teller(Supplier<LinkHarbour> make) {
+            this.make = make;
+        }
+
+        long ask(Call call) {
+            if (asked % 200 == 0) {
+                twin = make.get();
+            }
+            asked++;
+            return call.on(twin);
+        }
+
+        void tell(int most, IntFunction<Call> calls) {
+            for (int what = 0; what <= most; what++) {
+                numbers.add(ask(calls.apply(what)));
+            }
+        }
     }
 
     /** The numbers of the digest, by the other calls. */
-    private static List<Long> numbersOf(LinkHarbour x, boolean isLinked) {
-        List<Long> numbers = new ArrayList<>();
-        for (int what = 0; what <= 12; what++) {
-            tell(numbers, x.many(what));
+    private static List<Long> numbersOf(Supplier<LinkHarbour> make, boolean isLinked) {
+        Teller teller = new Teller(make);
+        teller.tell(12, what -> x -> x.many(what));
+        long objects = teller.ask(x -> x.many(0));
+        long sections = teller.ask(x -> x.many(1));
+        long libraries = teller.ask(x -> x.many(3));
+        long size = teller.ask(x -> x.many(9));
+        long faults = teller.ask(x -> x.many(10));
+        for (int k = 0; k < objects; k++) {
+            int object = k;
+            teller.tell(3, what -> x -> x.ofObject(object, what));
         }
-        for (int object = 0; object < x.many(0); object++) {
-            for (int what = 0; what <= 3; what++) {
-                tell(numbers, x.ofObject(object, what));
-            }
+        for (int k = 0; k < sections; k++) {
+            int section = k;
+            teller.tell(6, what -> x -> x.ofSection(section, what));
         }
-        for (int section = 0; section < x.many(1); section++) {
-            for (int what = 0; what <= 6; what++) {
-                tell(numbers, x.ofSection(section, what));
-            }
+        for (int k = 0; k < 20; k++) {
+            int name = k;
+            teller.tell(4, what -> x -> x.ofName(name, what));
         }
-        for (int name = 0; name < 20; name++) {
-            for (int what = 0; what <= 4; what++) {
-                tell(numbers, x.ofName(name, what));
-            }
+        for (int k = 0; k < faults; k++) {
+            int fault = k;
+            teller.tell(3, what -> x -> x.fault(fault, what));
         }
-        for (int k = 0; k < x.many(10); k++) {
-            for (int what = 0; what <= 3; what++) {
-                tell(numbers, x.fault(k, what));
-            }
-        }
-        for (int address = 0; address < x.many(9); address++) {
-            tell(numbers, x.wordAt(address));
-        }
-        for (int library = 0; library < x.many(3); library++) {
-            tellLibrary(numbers, x, library);
+        teller.tell((int) size - 1, address -> x -> x.wordAt(address));
+        for (int k = 0; k < libraries; k++) {
+            tellLibrary(teller, k);
         }
         if (isLinked) {
-            tell(numbers, x.sizeWith(10));
-            for (int object = 0; object < x.many(0); object++) {
-                tell(numbers, x.faultsWithout(object));
-            }
+            teller.tell(0, none -> x -> x.sizeWith(10));
+            teller.tell((int) objects - 1, object -> x -> x.faultsWithout(object));
         }
-        return numbers;
+        return teller.numbers;
     }
 
-    private static void tellLibrary(List<Long> numbers, LinkHarbour x, int library) {
-        for (int what = 0; what <= 7; what++) {
-            tell(numbers, x.ofLibrary(library, what));
-        }
-        tell(numbers, x.goes(library));
-        for (int name = 0; name < 20; name++) {
-            for (int what = 0; what <= 3; what++) {
-                tell(numbers, x.ofBinding(library, name, what));
-            }
-            tell(numbers, x.wouldBind(library, name));
+    private static void tellLibrary(Teller teller, int library) {
+        teller.tell(7, what -> x -> x.ofLibrary(library, what));
+        teller.tell(0, none -> x -> x.goes(library));
+        for (int k = 0; k < 20; k++) {
+            int name = k;
+            teller.tell(3, what -> x -> x.ofBinding(library, name, what));
+            teller.tell(0, none -> x -> x.wouldBind(library, name));
         }
     }
 
@@ -439,13 +459,10 @@ public final class BoundaryWouldBeTest {
         int above = 0;
         int below = 0;
         for (int turn = 0; turn < 40; turn++) {
-            LinkHarbour x = Harbours.withSections(1 + turn % 24);
-            x.fill(0, 1 + turn);
-            x.word(0, 0, turn - 20, false);
-            x.link(0, turn % 2 == 0);
-            BigInteger d = whole(numbersOf(x, true));
+            int k = turn;
+            BigInteger d = whole(numbersOf(() -> oneWord(k), true));
             check.due("d is far beyond 64 bits", 1, d.bitLength() > 500 ? 1 : 0);
-            long digest = x.digest();
+            long digest = oneWord(k).digest();
             check.due("as it wraps around", wrapped(d), digest);
             above += digest >= 0 ? 1 : 0;
             below += digest < 0 ? 1 : 0;
@@ -454,8 +471,16 @@ public final class BoundaryWouldBeTest {
         check.due("some are below 0", 1, below > 5 ? 1 : 0);
     }
 
-    private void digestDue(String what, LinkHarbour x, boolean isLinked) {
-        check.due(what, wrapped(whole(numbersOf(x, isLinked))), x.digest());
+    private static LinkHarbour oneWord(int k) {
+        LinkHarbour x = Harbours.withSections(1 + k % 24);
+        x.fill(0, 1 + k);
+        x.word(0, 0, k - 20, false);
+        x.link(0, k % 2 == 0);
+        return x;
+    }
+
+    private void digestDue(String what, boolean isLinked, Supplier<LinkHarbour> make) {
+        check.due(what, wrapped(whole(numbersOf(make, isLinked))), make.get().digest());
     }
 
     /**
@@ -464,55 +489,95 @@ public final class BoundaryWouldBeTest {
      * LIBRARY by LIBRARY ofLibrary() of 0 to 7, goes(), and NAME by NAME ofBinding() of 0 to 3, and wouldBind()"
      */
     private void promise30Numbers() {
-        digestDue("OBJECTS, ahead of all links", Harbours.withObjects(10), false);
-        digestDue("SECTIONS, ahead of all links", Harbours.withSections(24), false);
-        LinkHarbour words = Harbours.withSections(2);
-        words.link(19, false);
-        digestDue("one FAULT", words, true);
-        for (int k = 0; k < 8; k++) {
-            words.word(0, k, k - 4, k % 2 == 0);
-            words.jump(1, k, k % 3 == 0);
-            digestDue("what there is now", words, true);
-            words.link(k, k % 4 == 3);
-            digestDue("FAULTS and words", words, true);
+        digestDue("OBJECTS, ahead of all links", false, () -> Harbours.withObjects(10));
+        digestDue("SECTIONS, ahead of all links", false, () -> Harbours.withSections(24));
+        for (int k = 0; k <= 8; k++) {
+            int pieces = k;
+            digestDue("FAULTS and words", true, () -> ofPieces(pieces, true));
+            digestDue("what there is now", true, () -> ofPieces(pieces, false));
         }
-        LinkHarbour none = Harbours.withImports(2, 2, 0, 1);
-        digestDue("LIBRARIES that are not LOADED", none, true);
-        none.open(0, false);
-        digestDue("LIBRARIES that are LOADED", none, true);
-        none.call(0, 1);
-        digestDue("a binding", none, true);
-        none.open(2, true);
-        digestDue("GLOBAL ones", none, true);
-        none.close(0);
-        digestDue("closed", none, true);
-        LinkHarbour six = Harbours.withImports(7, 62, 61, 59, 55, 47, 31);
-        six.open(0, true);
-        for (int library = 3; library < 6; library++) {
-            six.call(library, 1);
+        for (int k = 0; k <= 4; k++) {
+            int steps = k;
+            digestDue("LIBRARIES, " + k, true, () -> ofLibraries(steps));
         }
-        digestDue("six LIBRARIES", six, true);
+        digestDue("six LIBRARIES", true, () -> {
+            LinkHarbour x = Harbours.withImports(7, 62, 61, 59, 55, 47, 31);
+            x.open(0, true);
+            for (int library = 3; library < 6; library++) {
+                x.call(library, 1);
+            }
+            return x;
+        });
+    }
+
+    /** So many WORDS and JUMPS, which are all in the latest link, or all but the last ones. */
+    private static LinkHarbour ofPieces(int pieces, boolean isLinkedLast) {
+        LinkHarbour x = Harbours.withSections(2);
+        x.link(19, false);
+        for (int k = 0; k < pieces; k++) {
+            x.link(k, k % 4 == 3);
+            x.word(0, k, k - 4, k % 2 == 0);
+            x.jump(1, k, k % 3 == 0);
+        }
+        if (isLinkedLast) {
+            x.link(pieces, pieces % 4 == 3);
+        }
+        return x;
+    }
+
+    /** Not LOADED; LOADED; with a binding; with a GLOBAL one; closed. */
+    private static LinkHarbour ofLibraries(int steps) {
+        LinkHarbour x = Harbours.withImports(2, 2, 0, 1);
+        if (steps > 0) {
+            x.open(0, false);
+        }
+        if (steps > 1) {
+            x.call(0, 1);
+        }
+        if (steps > 2) {
+            x.open(2, true);
+        }
+        if (steps > 3) {
+            x.close(0);
+        }
+        return x;
     }
 
     /** Promise 30: "if there was a link, sizeWith() of 10, and faultsWithout() of each OBJECT." */
     private void promise30IfThereWasALink() {
-        LinkHarbour x = Harbours.withObjects(10);
-        digestDue("no link", x, false);
-        check.illegalArgument("a refused link", () -> x.link(20, false));
-        digestDue("a refused link is none", x, false);
-        x.link(0, false);
-        digestDue("a link of nothing", x, true);
-        for (int words = 8; words <= 11; words++) {
-            LinkHarbour y = Harbours.withSections(2);
-            y.jump(0, 1, false);
-            y.fill(0, words);
-            y.define(1, 1, false, false);
-            y.link(0, false);
-            check.due("sizeWith() of 10 over " + words, (words <= 10 ? 3 : 6) + words, y.sizeWith(10));
-            digestDue("sizeWith() of 10 over " + words, y, true);
-            y.bounds(1, 3);
-            digestDue("with REACH and LIMIT as they are now", y, true);
+        digestDue("no link", false, () -> Harbours.withObjects(10));
+        digestDue("a refused link is none", false, () -> {
+            LinkHarbour x = Harbours.withObjects(10);
+            check.illegalArgument("a refused link", () -> x.link(20, false));
+            return x;
+        });
+        digestDue("a link of nothing", true, () -> {
+            LinkHarbour x = Harbours.withObjects(10);
+            x.link(0, false);
+            return x;
+        });
+        for (int k = 8; k <= 11; k++) {
+            int words = k;
+            check.due("sizeWith() of 10 over " + k, (k <= 10 ? 3 : 6) + k, over(words).sizeWith(10));
+            digestDue("sizeWith() of 10 over " + k, true, () -> over(words));
+            digestDue("with REACH and LIMIT as they are now", true, () -> {
+                LinkHarbour x = over(words);
+                x.bounds(1, 3);
+                return x;
+            });
         }
+    }
+
+    /** A JUMP over so many words. */
+    private static LinkHarbour over(int words) {
+        LinkHarbour x = Harbours.withSections(2);
+        x.jump(0, 1, false);
+        x.fill(0, words - 2);
+        x.word(0, 1, -9, false);
+        x.fill(0, 1);
+        x.define(1, 1, false, false);
+        x.link(0, false);
+        return x;
     }
 
     /** 3. Libraries: "---- what would be (nothing is changed)." */
