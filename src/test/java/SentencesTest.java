@@ -10,9 +10,9 @@ import java.util.regex.Pattern;
 import java.util.stream.Stream;
 
 /**
- * That no sentence of the document is without a test: each has to stand, part by part, in the remarks of the tests,
- * which tell it as: the document's section, a colon, and its words in quotation marks. And that what a remark tells
- * stands in the document.
+ * That no sentence of the document is without a test, but for those that have no edge: each has to stand, part by
+ * part, in the remarks of the tests, which tell it as: the document's section, a colon, and its words in quotation
+ * marks. And that what a remark tells stands in the document.
  */
 public final class SentencesTest {
     private static final Path DOCUMENT = Path.of("../shared/DOC.md");
