@@ -599,6 +599,17 @@ public final class BoundaryLibrariesTest {
         check.due("both", 2, x.many(4));
         check.due("both would go", 3, x.goes(0));
         check.due("and go", 2, x.close(0));
+        LinkHarbour y = Harbours.withLibraries(2);
+        y.open(0, true);
+        y.publish(0);
+        y.publish(1);
+        check.due("those that are not LOADED, of the ROW 2, 0, 1", 2, y.open(2, false));
+        int[] places = {0, 1, 2};
+        for (int library = 0; library < 3; library++) {
+            check.due("one goes to 1 by 0, that was LOADED ahead of this", places[library], y.ofLibrary(library, 7));
+        }
+        check.due("1 is not GLOBAL by 0, that was opened GLOBALLY ahead of it", 1, y.many(5));
+        check.due("1 stays, as 0 NEEDS it", 4, y.goes(2));
     }
 
     /**

@@ -784,7 +784,16 @@ public final class BoundaryLinksTest {
             check.due("of one word", align + 1, x.many(9));
             x.section(0, 16, true);
             x.link(0, false);
-            check.due("with an empty one of ALIGN 16 behind it", align == 16 ? 32 : 16, x.many(9));
+            int size = align == 16 ? 32 : 16;
+            check.due("with an empty one of ALIGN 16 behind it", size, x.many(9));
+            check.due("its address", size, x.ofSection(1, 4));
+            check.due("the word ahead of it", 0, x.wordAt(size - 1));
+            check.outOfBounds("it has no word", () -> x.wordAt(size));
+            check.due("1 word of SIZE", 1.0 / size, x.usedPart());
+            x.common(0, 0, 1, 1);
+            x.link(0, false);
+            check.due("a COMMON one is behind it", size, x.ofName(0, 2));
+            check.due("SIZE with that", size + 1, x.many(9));
         }
     }
 
